@@ -773,8 +773,8 @@ public final class SchemaRecords {
                     return readNumber(LOWEST_LONG) && keep(field, parent, NO_BYTES, start);
                 case TEXT:
                     number = 0L;
-                    byte[] bytes = readText();
-                    return bytes != null && keep(field, parent, bytes, start);
+                    int length = readText();
+                    return length != NONE && keep(field, parent, Arrays.copyOf(textRow, length), start);
                 default:
                     number = 0L;
                     return keep(field, parent, NO_BYTES, start)
@@ -821,31 +821,29 @@ public final class SchemaRecords {
             return true;
         }
 
-        /** Null if it can't stand. */
-        private byte[] readText() {
+        /** The text's bytes come into the row for them: how many; NONE if it can't stand. */
+        private int readText() {
             if (!text.takeSign('\'')) {
-                return null;
+                return NONE;
             }
-            int length = 0;
             // One round more than there may be bytes: in it only the closing sign can stand.
-            for (int k = 0; k <= MAX_TEXT; k++) {
+            for (int length = 0; length <= MAX_TEXT; length++) {
                 int c = text.here();
                 if (c == '\'') {
                     text.step(1);
-                    return Arrays.copyOf(textRow, length);
+                    return length;
                 }
                 if (c == Scanner.END || length >= textRow.length) {
                     text.failHere();
-                    return null;
+                    return NONE;
                 }
                 int meant = c == '\\' ? readEscape() : readPlain(c);
                 if (meant == NONE) {
-                    return null;
+                    return NONE;
                 }
                 textRow[length] = (byte) meant;
-                length++;
             }
-            return null;
+            return NONE;
         }
 
         private int readPlain(int c) {
@@ -952,7 +950,7 @@ public final class SchemaRecords {
         }
 
         private void putBetween(Field before, Field field) {
-            if (before == field) {
+            if (before != null && before.number == field.number) {
                 out.put(',');
                 return;
             }

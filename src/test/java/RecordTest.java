@@ -12,6 +12,7 @@ public final class RecordTest {
         texts();
         longTexts();
         whatStays();
+        onlyTheFirstBytes();
         full();
         deep();
         Check.end();
@@ -118,6 +119,9 @@ public final class RecordTest {
         Check.due("nodes()", x.nodes(), 7);
         Check.recordDue(x, "{a:1}", 3);
         Check.recordDue(x, "{a:", 3);
+        Check.recordDue(x, "{a:}", 3);
+        Check.recordDue(x, "{a:,g:[]}", 3);
+        Check.recordDue(x, "{a:]}", 3);
         Check.recordDue(x, "{a:[", 4);
         Check.recordDue(x, "{a:[,", 4);
         Check.recordDue(x, "{a:[}", 4);
@@ -309,6 +313,39 @@ public final class RecordTest {
         Check.feed(x, "{b:8}zzz");
         Check.due("record(5) of more bytes", x.record(5), NONE);
         Check.due("value(1)", x.value(1), 8);
+    }
+
+    /** What is on the tape behind the text's bytes, or was there before, counts for nothing. */
+    private static void onlyTheFirstBytes() {
+        SchemaRecords x = Check.with("optional int a; optional bool ab; optional text c;");
+        firstBytes(x, "{a:12}", 4, 4);
+        firstBytes(x, "{a:-5}", 4, 4);
+        firstBytes(x, "{a:05}", 4, 4);
+        firstBytes(x, "{a:2147483648}", 12, 12);
+        firstBytes(x, "{ab:true}", 2, 2);
+        firstBytes(x, "{ab:true}", 3, 3);
+        firstBytes(x, "{ab:true}", 7, 4);
+        firstBytes(x, "{ab:truex}", 8, 8);
+        firstBytes(x, "{c:'\\x41'}", 5, 5);
+        firstBytes(x, "{c:'\\x41'}", 6, 6);
+        firstBytes(x, "{c:'\\x41'}", 7, 7);
+        firstBytes(x, "{c:'\\x41'}", 8, 8);
+        firstBytes(x, "{c:'x'}", 6, 6);
+        firstBytes(x, "{}}", 2, NONE);
+        firstBytes(x, "{}  ", 1, 1);
+        SchemaRecords y = new SchemaRecords();
+        Check.feed(y, "required int ab;");
+        Check.due("schema(14)", y.schema(14), 14);
+        Check.feed(y, "required int a;;");
+        Check.due("schema(15)", y.schema(15), NONE);
+        Check.recordDue(y, "{" + " ".repeat(3998) + "a", 4000);
+        Check.recordDue(y, "{" + " ".repeat(3996) + "a:7", 4000);
+        Check.recordDue(y, "{a:" + "7".repeat(3997), 3);
+    }
+
+    private static void firstBytes(SchemaRecords x, String text, int n, int want) {
+        Check.feed(x, text);
+        Check.due("record(" + n + ") of " + text, x.record(n), want);
     }
 
     /** The tape full of one record; then nodes come by hand till there are 2000. */

@@ -121,6 +121,17 @@ public final class SchemaTest {
         Check.schemaDue("required int abcdefghijklmnopq;", 13);
         Check.schemaDue("required int required; optional int int; repeated group group{required bool bool;} "
             + "required text true; required long repeated;", NONE);
+        Check.schemaDue("required int AZaz09_;", NONE);
+        Check.schemaDue("required int A;required int Z;required int a;required int z;", NONE);
+        String signs = "@[`{/:0 9_-.".replace(" ", "");
+        for (int k = 0; k < signs.length(); k++) {
+            Check.schemaDue("required int " + signs.charAt(k) + "a;", 13);
+        }
+        Check.schemaDue("required int a@;", 14);
+        Check.schemaDue("required int a[;", 14);
+        Check.schemaDue("required int a`;", 14);
+        Check.schemaDue("required int a/;", 14);
+        Check.schemaDue("required int a:;", 14);
         Check.schemaDue("required int a; required int a;", 29);
         Check.schemaDue("required int a; required int A;", NONE);
         Check.schemaDue("required int a; required group a{required int b;}", 31);
