@@ -242,6 +242,8 @@ public final class RecordTest {
         Check.recordDue(x, "{a:x}", 3);
         Check.recordDue(x, "{a:\"x\"}", 3);
         Check.recordDue(x, "{a:5}", 3);
+        Check.recordDue(x, "{a:}", 3);
+        Check.recordDue(x, "{a:,", 3);
         Check.recordDue(x, "{a:'", 4);
         Check.recordDue(x, "{a:'x", 5);
         Check.recordDue(x, "{a:'x ", 6);
@@ -288,6 +290,8 @@ public final class RecordTest {
         Check.recordDue(x, "{a:'" + most + "z", 4 + 255);
         Check.recordDue(x, "{a:'" + most + "\\''}", 4 + 255);
         Check.recordDue(x, "{a:'" + most + "\u0001'}", 4 + 255);
+        Check.recordDue(x, "{a:'" + most + "}", 4 + 255);
+        Check.recordDue(x, "{a:'" + most + " '}", 4 + 255);
         SchemaRecords y = Check.with("optional text a;");
         text(y, "'" + "\\x27".repeat(255) + "'", "'".repeat(255));
         Check.recordDue(y, "{a:'" + "\\x27".repeat(255) + "\\x27'}", 4 + 4 * 255);
