@@ -28,6 +28,20 @@ final class Check {
         }
     }
 
+    /** A sentence of the document with the test of its own; one without answers, or with wrong ones, is told by its words. */
+    static void sentence(String where, String words, Runnable test) {
+        int callsBefore = calls;
+        int wrongBefore = wrong;
+        test.run();
+        if (calls == callsBefore) {
+            wrong++;
+            System.out.println("no answer was looked at");
+        }
+        if (wrong != wrongBefore) {
+            System.out.println("  so this does not hold (" + where + "): " + words);
+        }
+    }
+
     static int wrongSoFar() {
         return wrong;
     }
