@@ -114,6 +114,16 @@ final class Check {
         return n == SchemaRecords.NONE ? "NONE" : output(x, n);
     }
 
+    /** As written(), of an output so long that all its bytes would take more calls than an object has. */
+    static void longWritten(SchemaRecords x, String want) {
+        due("write()", x.write(), want.length());
+        for (int k = 0; k < want.length(); k += 1 + want.length() / 100) {
+            due("output(" + k + ")", x.output(k), want.charAt(k));
+        }
+        due("the last byte", x.output(want.length() - 1), want.charAt(want.length() - 1));
+        due("behind it", x.output(want.length()), SchemaRecords.NONE);
+    }
+
     static String output(SchemaRecords x, int n) {
         StringBuilder text = new StringBuilder();
         for (int k = 0; k < n; k++) {
@@ -124,7 +134,8 @@ final class Check {
 
     static String textOf(SchemaRecords x, int i) {
         StringBuilder text = new StringBuilder();
-        for (int k = 0; k < x.node(i, 3); k++) {
+        int n = x.node(i, 3);
+        for (int k = 0; k < n; k++) {
             text.append((char) x.textByte(i, k));
         }
         return text.toString();

@@ -7,7 +7,8 @@ import java.util.regex.Pattern;
 
 /** Long runs of calls, made from fixed seeds, against a second and slower program that is written another way. */
 public final class ModelTest {
-    private static final int RUNS = 4000;
+    private static final int RUNS = 20000;
+    private static final int CALLS_OF_AN_OBJECT = 512;
 
     public static void main(String[] args) {
         for (int seed = 0; seed < RUNS && Check.wrongSoFar() < 20; seed++) {
@@ -24,6 +25,11 @@ public final class ModelTest {
         Fault(int place) {
             this.place = place;
         }
+    }
+
+    /** The object of a run has had all the calls that are promised. */
+    private static final class Spent extends RuntimeException {
+        private static final long serialVersionUID = 1L;
     }
 
     private static final class ModelField {
@@ -415,8 +421,9 @@ public final class ModelTest {
 
         private final int seed;
         private final Random random;
-        private final SchemaRecords x = new SchemaRecords();
+        private final SchemaRecords object = new SchemaRecords();
         private final Model model = new Model();
+        private int calls;
         private int made;
 
         Run(int seed) {
@@ -425,20 +432,37 @@ public final class ModelTest {
         }
 
         void go() {
-            for (int k = 0; k < 12; k++) {
-                if (k == 0 || random.nextInt(6) == 0) {
-                    readSchema();
+            try {
+                for (int k = 0; k < CALLS_OF_AN_OBJECT; k++) {
+                    step(k == 0 || chance(6));
+                    looks();
                 }
-                switch (random.nextInt(3)) {
-                    case 0 -> readRecords();
-                    case 1 -> makeByHand();
-                    default -> {
-                        readRecords();
-                        addSome(random.nextInt(12));
-                    }
-                }
-                looks();
+            } catch (Spent end) {
+                due("calls", calls > CALLS_OF_AN_OBJECT ? 1 : 0, 1);
             }
+        }
+
+        private void step(boolean withSchema) {
+            if (withSchema) {
+                readSchema();
+            }
+            switch (random.nextInt(3)) {
+                case 0 -> readRecords();
+                case 1 -> makeByHand();
+                default -> {
+                    readRecords();
+                    addSome(random.nextInt(12));
+                }
+            }
+        }
+
+        /** The object for one call more. */
+        private SchemaRecords x() {
+            calls++;
+            if (calls > CALLS_OF_AN_OBJECT) {
+                throw new Spent();
+            }
+            return object;
         }
 
         private void due(String what, long got, long want) {
@@ -452,7 +476,8 @@ public final class ModelTest {
         private void feed(String text) {
             boolean had = model.tape.length() + (text.length() + 19) / 20 * 20 <= 4000;
             if (had) {
-                due("feed", Check.feed(x, text) ? 1 : 0, 1);
+                calls += Math.max(0, (text.length() + 19) / 20 - 1);
+                due("feed", Check.feed(x(), text) ? 1 : 0, 1);
                 model.tape += text + "\u0000".repeat((20 - text.length() % 20) % 20);
             }
         }
@@ -471,7 +496,7 @@ public final class ModelTest {
             text = noise(text + blank(), 4);
             feed(text);
             int cut = size(text);
-            due("schema " + text, x.schema(cut), model.schema(cut));
+            due("schema " + text, x().schema(cut), model.schema(cut));
         }
 
         private String blank() {
@@ -517,14 +542,14 @@ public final class ModelTest {
         }
 
         private void readRecords() {
-            int n = 1 + random.nextInt(6);
+            int n = 1 + random.nextInt(3);
             for (int k = 0; k < n; k++) {
                 made = 0;
                 String text = noise(blank() + members(-1) + blank(), 2);
                 text = text.length() > 4000 ? text.substring(0, 4000) : text;
                 feed(text);
                 int cut = size(text);
-                due("record " + text, x.record(cut), model.record(cut));
+                due("record " + text, x().record(cut), model.record(cut));
             }
         }
 
@@ -585,7 +610,7 @@ public final class ModelTest {
         }
 
         private void makeByHand() {
-            x.begin();
+            x().begin();
             model.nodes = Model.alone();
             addSome(random.nextInt(40));
         }
@@ -611,59 +636,56 @@ public final class ModelTest {
                 String text = noise(text(), 2);
                 feed(text);
                 int cut = size(text);
-                due("addText " + parent + " " + f, x.addText(parent, f, cut), model.addText(parent, f, cut));
+                due("addText " + parent + " " + f, x().addText(parent, f, cut), model.addText(parent, f, cut));
                 return;
             }
             long v = chance(4) ? 0 : random.nextLong() >> random.nextInt(64);
-            due("add " + parent + " " + f + " " + v, x.add(parent, f, v), model.add(parent, f, v));
+            due("add " + parent + " " + f + " " + v, x().add(parent, f, v), model.add(parent, f, v));
         }
 
-        /** All that can be asked, within the state and a little beyond. */
+        /** Some of what can be asked, within the state and a little beyond. */
         private void looks() {
-            due("count(0)", x.count(0), model.fields.size());
-            due("count(1)", x.count(1), model.fields.stream().filter(f -> !f.is("group")).count());
-            due("nodes()", x.nodes(), model.nodes.size());
-            due("isWhole()", x.isWhole() ? 1 : 0, model.isWhole() ? 1 : 0);
+            due("count(0)", x().count(0), model.fields.size());
+            due("count(1)", x().count(1), model.fields.stream().filter(f -> !f.is("group")).count());
+            due("nodes()", x().nodes(), model.nodes.size());
+            due("isWhole()", x().isWhole() ? 1 : 0, model.isWhole() ? 1 : 0);
             int f = random.nextInt(model.fields.size() + 2) - 1;
-            for (int what = -1; what < 8; what++) {
-                due("field " + f + " " + what, x.field(f, what), model.fieldProperty(f, what));
-            }
+            int what = random.nextInt(9) - 1;
+            due("field " + f + " " + what, x().field(f, what), model.fieldProperty(f, what));
             int column = model.fieldProperty(f, 3);
-            due("column " + column, x.column(column), column == -1 ? -1 : f);
+            due("column " + column, x().column(column), column == -1 ? -1 : f);
             looksAtNames(f);
-            for (int i = -1; i <= model.nodes.size(); i++) {
-                looksAtNode(i);
+            for (int k = 0; k < 3; k++) {
+                looksAtNode(random.nextInt(model.nodes.size() + 2) - 1);
             }
             if (chance(2)) {
-                due("write()", x.write(), model.write());
+                due("write()", x().write(), model.write());
             }
-            for (int k = -1; k <= model.output.length(); k++) {
-                boolean there = k >= 0 && k < model.output.length();
-                due("output " + k, x.output(k), there ? model.output.charAt(k) : -1);
+            for (int k = 0; k < 6; k++) {
+                int at = random.nextInt(model.output.length() + 2) - 1;
+                boolean there = at >= 0 && at < model.output.length();
+                due("output " + at, x().output(at), there ? model.output.charAt(at) : -1);
             }
         }
 
         private void looksAtNames(int f) {
             String name = f >= 0 && f < model.fields.size() ? model.fields.get(f).name : "";
-            for (int k = -1; k <= name.length(); k++) {
-                due("letter " + f + " " + k, x.letter(f, k), k >= 0 && k < name.length() ? name.charAt(k) : -1);
-            }
+            int k = random.nextInt(name.length() + 2) - 1;
+            due("letter " + f + " " + k, x().letter(f, k), k >= 0 && k < name.length() ? name.charAt(k) : -1);
             int group = chance(3) || name.isEmpty() ? random.nextInt(model.fields.size() + 4) - 2 : model.fields.get(f).group;
             feed(name);
             int cut = size(name);
-            due("find " + group + " " + name, x.find(group, cut), model.find(group, cut));
+            due("find " + group + " " + name, x().find(group, cut), model.find(group, cut));
         }
 
         private void looksAtNode(int i) {
-            for (int what = -1; what < 5; what++) {
-                due("node " + i + " " + what, x.node(i, what), model.nodeProperty(i, what));
-            }
+            int what = random.nextInt(6) - 1;
+            due("node " + i + " " + what, x().node(i, what), model.nodeProperty(i, what));
             boolean there = i >= 0 && i < model.nodes.size();
-            due("value " + i, x.value(i), there ? model.nodes.get(i).value : 0);
+            due("value " + i, x().value(i), there ? model.nodes.get(i).value : 0);
             String text = there ? model.nodes.get(i).text : "";
-            for (int k = -1; k <= text.length(); k++) {
-                due("textByte " + i + " " + k, x.textByte(i, k), k >= 0 && k < text.length() ? text.charAt(k) : -1);
-            }
+            int k = random.nextInt(text.length() + 2) - 1;
+            due("textByte " + i + " " + k, x().textByte(i, k), k >= 0 && k < text.length() ? text.charAt(k) : -1);
         }
     }
 }

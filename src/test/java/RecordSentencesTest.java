@@ -305,7 +305,7 @@ public final class RecordSentencesTest {
         Check.sentence("Terms", "at most 255 bytes", () -> {
             SchemaRecords x = Check.with("optional text a;");
             textDue(x, "", "");
-            textDue(x, "q".repeat(254), "q".repeat(254));
+            textDue(Check.with("optional text a;"), "q".repeat(254), "q".repeat(254));
             SchemaRecords y = Check.with("optional text a;");
             textDue(y, "q".repeat(255), "q".repeat(255));
             SchemaRecords z = Check.with("optional text a;");

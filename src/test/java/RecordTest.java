@@ -284,7 +284,7 @@ public final class RecordTest {
     private static void longTexts() {
         SchemaRecords x = Check.with("optional text a;");
         String most = "z".repeat(255);
-        text(x, "'" + most + "'", most);
+        text(Check.with("optional text a;"), "'" + most + "'", most);
         Check.recordDue(x, "{a:'" + most + "z'}", 4 + 255);
         Check.recordDue(x, "{a:'" + most, 4 + 255);
         Check.recordDue(x, "{a:'" + most + "z", 4 + 255);
@@ -342,9 +342,11 @@ public final class RecordTest {
         Check.due("schema(14)", y.schema(14), 14);
         Check.feed(y, "required int a;;");
         Check.due("schema(15)", y.schema(15), NONE);
-        Check.recordDue(y, "{" + " ".repeat(3998) + "a", 4000);
-        Check.recordDue(y, "{" + " ".repeat(3996) + "a:7", 4000);
-        Check.recordDue(y, "{a:" + "7".repeat(3997), 3);
+        String[] full = {"{" + " ".repeat(3998) + "a", "{" + " ".repeat(3996) + "a:7", "{a:" + "7".repeat(3997)};
+        int[] places = {4000, 4000, 3};
+        for (int k = 0; k < full.length; k++) {
+            Check.recordDue(Check.with("required int a;"), full[k], places[k]);
+        }
     }
 
     private static void firstBytes(SchemaRecords x, String text, int n, int want) {
@@ -358,7 +360,7 @@ public final class RecordTest {
         String text = "{a:[" + "1,".repeat(1996) + "1]}";
         Check.recordDue(x, text, NONE);
         Check.due("nodes()", x.nodes(), 1998);
-        Check.due("written", Check.written(x), text);
+        Check.longWritten(x, text);
         Check.due("add", x.add(0, 0, 5), 1998);
         Check.due("add", x.add(0, 0, 6), 1999);
         Check.due("add over", x.add(0, 0, 7), NONE);
@@ -366,7 +368,7 @@ public final class RecordTest {
         Check.due("node(0, 2)", x.node(0, 2), 1999);
         Check.due("value(1999)", x.value(1999), 6);
         Check.due("node(2000, 0)", x.node(2000, 0), NONE);
-        Check.due("written", Check.written(x), "{a:[" + "1,".repeat(1997) + "5,6]}");
+        Check.longWritten(x, "{a:[" + "1,".repeat(1997) + "5,6]}");
         x.begin();
         Check.due("add", x.add(0, 0, 7), 1);
     }

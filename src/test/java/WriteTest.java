@@ -65,31 +65,29 @@ public final class WriteTest {
     }
 
     private static void numbers() {
-        SchemaRecords x = Check.with("optional long a;");
         long ten = 1;
         for (int k = 0; k < 19; k++) {
-            number(x, ten);
-            number(x, -ten);
-            number(x, ten - 1);
-            number(x, 1 - ten);
+            number(ten);
+            number(-ten);
+            number(ten - 1);
+            number(1 - ten);
             ten *= 10;
         }
-        number(x, Long.MAX_VALUE);
-        number(x, Long.MIN_VALUE);
-        number(x, 1234567890123456789L);
-        number(x, -1020304050607080900L);
+        number(Long.MAX_VALUE);
+        number(Long.MIN_VALUE);
+        number(1234567890123456789L);
+        number(-1020304050607080900L);
     }
 
-    private static void number(SchemaRecords x, long v) {
-        x.begin();
+    private static void number(long v) {
+        SchemaRecords x = Check.with("optional long a;");
         x.add(0, 0, v);
         Check.due("write() of " + v, Check.written(x), "{a:" + v + "}");
     }
 
     private static void everyByte() {
-        SchemaRecords x = Check.with("optional text a;");
         for (int c = 0; c < 256; c++) {
-            x.begin();
+            SchemaRecords x = Check.with("optional text a;");
             Check.due("addText " + c, Check.addText(x, 0, 0, String.valueOf((char) c)), 1);
             String want = c < 32 || c > 126 ? String.format("\\x%02x", c)
                 : c == '\'' || c == '\\' ? "\\" + (char) c : String.valueOf((char) c);
@@ -128,8 +126,7 @@ public final class WriteTest {
             want.append(k == 0 ? "'" : ",'").append("\\x80".repeat(255)).append("'");
         }
         want.append("]}");
-        Check.due("written", Check.written(x), want.toString());
-        Check.due("output behind", x.output(want.length()), NONE);
-        Check.due("written again", Check.written(x), want.toString());
+        Check.longWritten(x, want.toString());
+        Check.longWritten(x, want.toString());
     }
 }
