@@ -29,6 +29,7 @@ public final class SchemaRecords {
     private static final int MAX_NODES = 2000;
     private static final int MAX_TEXT_BYTES = 16000;
     private static final int FIRST_OUTPUT_ROOM = 1024;
+    private static final int MOST_OUTPUT_ROOM = 262144;
 
     private static final long LOWEST_INT = -2147483648L;
     private static final long LOWEST_LONG = -9223372036854775807L - 1L;
@@ -903,13 +904,15 @@ public final class SchemaRecords {
             return k < 0 || k >= size || k >= bytes.length ? NONE : bytes[k] & 255;
         }
 
-        /** The limits of nodes and of their texts keep the row below 150,000 bytes. */
+        /** The limits of nodes and of their texts keep the row below 150,000 bytes, so that none is left out. */
         void put(int c) {
-            if (size >= bytes.length) {
+            if (size >= bytes.length && bytes.length < MOST_OUTPUT_ROOM) {
                 bytes = Arrays.copyOf(bytes, bytes.length * 2);
             }
-            bytes[size] = (byte) c;
-            size++;
+            if (size < bytes.length) {
+                bytes[size] = (byte) c;
+                size++;
+            }
         }
     }
 

@@ -10,6 +10,8 @@ import java.util.HashSet;
 import java.util.List;
 import java.util.Set;
 import java.util.TreeSet;
+import java.util.regex.Matcher;
+import java.util.regex.Pattern;
 
 /** The class's face is the document's, and the source keeps to what LANGUAGE.md leaves where that can be seen by words. */
 public final class FaceTest {
@@ -27,6 +29,8 @@ public final class FaceTest {
         members();
         classesInside();
         source();
+        library();
+        lengths();
         Check.end();
     }
 
@@ -70,6 +74,7 @@ public final class FaceTest {
         for (Class<?> one : inside) {
             Check.due(one + " is private", Modifier.isPrivate(one.getModifiers()), true);
             Check.due(one + " is static", Modifier.isStatic(one.getModifiers()), true);
+            fields(one);
             for (Method method : one.getDeclaredMethods()) {
                 Check.due(method + " bears a name of the face", publicNames.contains(method.getName()), false);
                 Check.due(method + " takes at most seven", method.getParameterCount() <= 7, true);
@@ -77,17 +82,59 @@ public final class FaceTest {
         }
     }
 
-    private static void source() throws IOException {
+    private static void fields(Class<?> one) {
+        int own = 0;
+        for (Field field : one.getDeclaredFields()) {
+            boolean isStatic = Modifier.isStatic(field.getModifiers());
+            own += isStatic ? 0 : 1;
+            Check.due(field + " is not static, or final", !isStatic || Modifier.isFinal(field.getModifiers()), true);
+            Check.due(field + " has one dimension at most", field.getType().getName().startsWith("[["), false);
+        }
+        Check.due(one + " has at most twenty fields", own <= 20, true);
+    }
+
+    /** The source without comments; what stands in quotes is taken out too, as it is no code. */
+    private static String code() throws IOException {
         String text = Files.readString(Path.of("src/main/java/SchemaRecords.java"));
-        String code = text.replaceAll("(?s)/\\*.*?\\*/", "").replaceAll("//[^\n]*", "");
+        return text.replaceAll("(?s)/\\*.*?\\*/", "").replaceAll("//[^\n]*", "")
+            .replaceAll("'(?:\\\\.|[^'\\\\])'", "'.'").replaceAll("\"(?:\\\\.|[^\"\\\\])*\"", "\"..\"");
+    }
+
+    private static void source() throws IOException {
+        String code = code();
         for (String word : RULED_OUT) {
             String pattern = Character.isLetter(word.charAt(0)) && !word.equals("Exact")
-                ? "(?s).*\\b" + java.util.regex.Pattern.quote(word) + "(?![A-Za-z]).*"
-                : "(?s).*" + java.util.regex.Pattern.quote(word) + ".*";
+                ? "(?s).*\\b" + Pattern.quote(word) + "(?![A-Za-z]).*"
+                : "(?s).*" + Pattern.quote(word) + ".*";
             Check.due("the source has " + word, code.matches(pattern), false);
         }
         Check.due("the source has a package line", code.matches("(?s).*\\bpackage\\b.*"), false);
         Check.due("the source imports only Arrays",
             code.replace("import java.util.Arrays;", "").matches("(?s).*\\bimport\\b.*"), false);
+    }
+
+    private static void library() throws IOException {
+        Matcher of = Pattern.compile("\\b(System|Math|Integer|Long|Boolean|Character|String|StringBuilder|Arrays|List|Objects)\\.\\w+").matcher(code());
+        Set<String> used = new TreeSet<>();
+        while (of.find()) {
+            used.add(of.group());
+        }
+        Check.due("the library's functions", used.toString(), "[Arrays.copyOf, Arrays.copyOfRange]");
+        Check.due("texts joined by +", code().matches("(?s).*(\"\\.\\.\" \\+|\\+ \"\\.\\.\").*"), false);
+    }
+
+    /** A method is what stands between a line that ends in ") {" and a } as far in; loops in it are further in. */
+    private static void lengths() throws IOException {
+        List<String> lines = code().lines().toList();
+        int methods = 0;
+        for (int k = 0; k < lines.size(); k++) {
+            Matcher head = Pattern.compile("( {4}| {8})[^ ].*\\) \\{").matcher(lines.get(k));
+            if (head.matches() && !lines.get(k).matches(" +(if|for|while|switch|\\}).*")) {
+                int end = k + lines.subList(k, lines.size()).indexOf(head.group(1) + "}");
+                Check.due(lines.get(k).trim() + " ends within sixty lines", end > k && end - k < 60, true);
+                methods++;
+            }
+        }
+        Check.due("methods are found", methods > FACE.length, true);
     }
 }

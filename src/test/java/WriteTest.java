@@ -9,6 +9,7 @@ public final class WriteTest {
         everyByte();
         outputStays();
         longOutput();
+        widestOutput();
         Check.end();
     }
 
@@ -128,5 +129,37 @@ public final class WriteTest {
         want.append("]}");
         Check.longWritten(x, want.toString());
         Check.longWritten(x, want.toString());
+    }
+
+    /** The widest record: nothing of it is left out. More calls than are promised, as fewer can't make it. */
+    private static void widestOutput() {
+        StringBuilder schema = new StringBuilder("repeated text text_of_16_bytes;repeated group g{");
+        for (int k = 10; k < 70; k++) {
+            schema.append("repeated long name_16_bytes_").append(k).append(';');
+        }
+        SchemaRecords x = Check.with(schema.append('}').toString());
+        StringBuilder want = new StringBuilder("{text_of_16_bytes:[");
+        for (int k = 0; k < 63; k++) {
+            int size = k < 62 ? 255 : 190;
+            Check.due("a text", Check.addText(x, 0, 0, "\u0000".repeat(size)), k + 1);
+            want.append(k == 0 ? "'" : ",'").append("\\x00".repeat(size)).append("'");
+        }
+        want.append("],g:[{");
+        int group = x.add(0, 1, 0);
+        int inGroup = 0;
+        for (int k = x.nodes(); k < 2000; k++) {
+            if (inGroup == 60) {
+                inGroup = 0;
+                group = x.add(0, 1, 0);
+                want.append("},{");
+                continue;
+            }
+            Check.due("a number", x.add(group, 2 + inGroup, Long.MIN_VALUE), k);
+            want.append(inGroup == 0 ? "" : ",").append("name_16_bytes_").append(10 + inGroup).append(":[-9223372036854775808]");
+            inGroup++;
+        }
+        Check.due("no room for one more", x.add(0, 1, 0), NONE);
+        Check.longWritten(x, want.append("}]}").toString());
+        Check.due("its size", want.length() > 140000, true);
     }
 }
